@@ -74,19 +74,12 @@ public final class RunTest {
         }
     }
 
-    /** let rec f x = if x then f (x - 1) else 0 in f (depth - 1). */
-    private static int[] descend(int depth) {
-        return Term.letrec(0, 1, Term.iff(Term.var(1),
-            Term.app(Term.var(0), Term.sub(Term.var(1), Term.num(1))), Term.num(77)),
-            Term.app(Term.var(0), Term.num(depth - 1)));
-    }
-
     private static void depthLimits() {
         for (int depth = 1; depth <= 8; depth++) {
-            DefuncMl x = Term.compiled(64, depth, descend(depth));
+            DefuncMl x = Term.compiled(64, depth, Term.lineLoop(depth - 1));
             check.runs("to depth " + depth, x, DefuncMl.OK, depth + 1, depth);
             check.result("to depth " + depth, x, 0, 0, DefuncMl.KIND_INT, 77);
-            DefuncMl y = Term.compiled(64, depth, descend(depth + 1));
+            DefuncMl y = Term.compiled(64, depth, Term.lineLoop(depth));
             check.runs("past depth " + depth, y, DefuncMl.ERR_DEPTH, depth + 1, depth);
             check.noResult("past depth " + depth, y);
         }
@@ -115,8 +108,8 @@ public final class RunTest {
     }
 
     private static void runsAreRepeatable() {
-        DefuncMl good = Term.compiled(64, 8, Term.pair(descend(3), IDENTITY));
-        DefuncMl bad = Term.compiled(64, 2, descend(3));
+        DefuncMl good = Term.compiled(64, 8, Term.pair(Term.lineLoop(2), IDENTITY));
+        DefuncMl bad = Term.compiled(64, 2, Term.lineLoop(2));
         for (int i = 0; i < 5; i++) {
             check.runs("good again", good, DefuncMl.OK, 6, 3);
             check.result("good again", good, 0, 0, DefuncMl.KIND_PAIR, 0);
@@ -128,7 +121,7 @@ public final class RunTest {
     }
 
     private static void laterRunsDropTheResult() {
-        DefuncMl x = Term.compiled(64, 8, descend(4));
+        DefuncMl x = Term.compiled(64, 8, Term.lineLoop(3));
         check.runs("before reset", x, DefuncMl.OK, 5, 4);
         x.reset();
         check.refusedRun("after reset", x);

@@ -78,9 +78,41 @@ final class Term {
 
     /** Makes 255 applications, never more than 8 of them active. */
     static int[] wideLoop() {
+        return treeLoop(7);
+    }
+
+    /**
+     * let rec f x = if x then f (x - 1) + f (x - 1) else 0 in f n: makes 2^(n+1) - 1 applications,
+     * n + 1 of them active at once, and spends one unit more than it makes applications.
+     */
+    static int[] treeLoop(int n) {
         int[] less = sub(var(1), num(1));
         int[] body = iff(var(1), add(app(var(0), less), app(var(0), less)), num(0));
-        return letrec(0, 1, body, app(var(0), num(7)));
+        return letrec(0, 1, body, app(var(0), num(n)));
+    }
+
+    /** let rec f x = if x then f (x - 1) else 77 in f n: n + 1 applications, all active at once. */
+    static int[] lineLoop(int n) {
+        int[] call = app(var(0), sub(var(1), num(1)));
+        return letrec(0, 1, iff(var(1), call, num(77)), app(var(0), num(n)));
+    }
+
+    /** The term as the first part of so many pairs, one around the other: a unit for each. */
+    static int[] inPairs(int many, int[] term) {
+        int[] whole = term;
+        for (int i = 1; i <= many; i++) {
+            whole = pair(whole, num(i));
+        }
+        return whole;
+    }
+
+    /** Functions around a number, so many nodes in all. */
+    static int[] chain(int nodes) {
+        int[] whole = num(5);
+        for (int i = 1; i < nodes; i++) {
+            whole = fun(i % 8, whole);
+        }
+        return whole;
     }
 
     private static int[] join(int kind, int a, int b, int[]... children) {
