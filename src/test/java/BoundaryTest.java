@@ -6,20 +6,22 @@ import java.util.Comparator;
 import java.util.HashMap;
 import java.util.List;
 import java.util.Map;
+import java.util.Set;
 
 /**
- * Runs a test for each sentence of the language and of the promises, boundary cases above all, and
- * holds the sentences that the tests name against the document: each must stand there, and none
- * may stand there without a test.
+ * Runs a test for each sentence of the document, boundary cases above all, and holds the sentences
+ * that the tests name against the document: each must stand there, and none may stand there without
+ * a test.
  */
 public final class BoundaryTest {
-    private static final List<Class<?>> TESTS = List.of(FormBoundaries.class,
-        ScopeBoundaries.class, EvaluationBoundaries.class, ApplicationBoundaries.class,
-        ConstructionBoundaries.class, NodeBoundaries.class, CompileBoundaries.class,
-        RunBoundaries.class, ResultBoundaries.class);
+    private static final List<Class<?>> TESTS = List.of(OverviewBoundaries.class,
+        FormBoundaries.class, ScopeBoundaries.class, EvaluationBoundaries.class,
+        ApplicationBoundaries.class, ConstructionBoundaries.class, NodeBoundaries.class,
+        CompileBoundaries.class, RunBoundaries.class, ResultBoundaries.class);
 
     /** Words that only lead to the sentences around them: the section, then the words. */
     private static final String[][] LEADS = {
+        {"What it is", "Public constants:"},
         {"Program form", "kind a b children (in order) meaning"},
         {"Program form", "Completeness is counted in open places."},
         {"Values and evaluation", "Values are of three sorts:"},
@@ -29,6 +31,9 @@ public final class BoundaryTest {
         {"Promise 11", "Otherwise:"},
         {"Promise 16", "Depending on the kind reached it answers:"},
     };
+
+    /** FaceTest holds the class against the first; the second leaves the class free. */
+    private static final Set<String> NOT_TESTED_HERE = Set.of("The public face", "Not promised");
 
     private static final Check check = new Check();
     private static final Map<String, boolean[]> told = new HashMap<>();
@@ -43,12 +48,10 @@ public final class BoundaryTest {
         for (String[] lead : LEADS) {
             tell(lead[0], lead[1]);
         }
-        for (String section : List.of("Program form", "Scope", "Lambdas and free variables",
-            "Values and evaluation")) {
-            allTold(section);
-        }
-        for (int promise = 1; promise <= 16; promise++) {
-            allTold("Promise " + promise);
+        for (String section : document.names()) {
+            if (!NOT_TESTED_HERE.contains(section)) {
+                allTold(section);
+            }
         }
         check.end();
     }
@@ -89,7 +92,6 @@ public final class BoundaryTest {
 
     private static void allTold(String section) {
         String text = document.section(section);
-        check.due(section + " stands in the document", !text.isEmpty(), true);
         boolean[] marks = told.getOrDefault(section, new boolean[text.length()]);
         StringBuilder left = new StringBuilder();
         for (int i = 0; i < text.length(); i++) {

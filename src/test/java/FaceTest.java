@@ -1,3 +1,4 @@
+import java.io.IOException;
 import java.lang.reflect.Constructor;
 import java.lang.reflect.Field;
 import java.lang.reflect.Method;
@@ -5,36 +6,57 @@ import java.lang.reflect.Modifier;
 import java.util.Arrays;
 import java.util.Set;
 import java.util.TreeSet;
+import java.util.regex.Matcher;
+import java.util.regex.Pattern;
 
 /** The document's public face, and what LANGUAGE.md says of the class's members. */
 public final class FaceTest {
     private static final Check check = new Check();
 
-    private static final Set<String> CONSTANTS = Set.of("MAX_NODES=32", "K_NUM=1", "K_VAR=2",
-        "K_ADD=3", "K_SUB=4", "K_MUL=5", "K_DIV=6", "K_LT=7", "K_EQ=8", "K_IF=9", "K_PAIR=10",
-        "K_FST=11", "K_SND=12", "K_FUN=13", "K_LET=14", "K_LETREC=15", "K_APP=16", "OK=0",
-        "ERR_COMPLETE=1", "ERR_FULL=2", "ERR_KIND=3", "ERR_NAME=4", "ERR_INCOMPLETE=5",
-        "ERR_SCOPE=6", "ERR_NOT_COMPILED=7", "ERR_NOT_INT=8", "ERR_NOT_FUN=9", "ERR_NOT_PAIR=10",
-        "ERR_DIV=11", "ERR_BUDGET=12", "ERR_DEPTH=13", "NO_RESULT=14", "KIND_NONE=0", "KIND_INT=1",
-        "KIND_PAIR=2", "KIND_FUN=3");
-
-    private static final Set<String> METHODS = Set.of("void reset[]", "int node[int, int, int]",
-        "int nodeCount[]", "boolean isComplete[]", "int compile[]", "boolean isCompiled[]",
-        "int lambdaCount[]", "int lambdaNode[int]", "int freeVars[int]", "int run[]",
-        "int lastOutcome[]", "int unitsUsed[]", "int peakDepth[]", "int resultKind[int, int]",
-        "int resultValue[int, int]");
+    private static final Pattern CONSTANT =
+        Pattern.compile("public static final int (\\w+ = \\d+);");
+    private static final Pattern CALL =
+        Pattern.compile("public ((?:(?:void|int|boolean) )?\\w+)\\(([^)]*)\\)");
 
     private static final Set<Class<?>> TYPES = Set.of(int.class, long.class, short.class,
         byte.class, char.class, boolean.class, int[].class, long[].class, short[].class,
         byte[].class, char[].class, boolean[].class);
 
-    public static void main(String[] args) throws IllegalAccessException {
-        same("public constants", publicConstants(), CONSTANTS);
-        same("public methods", publicMethods(), METHODS);
+    public static void main(String[] args) throws IOException, IllegalAccessException {
+        String face = new Document().section("The public face");
+        same("public constants", publicConstants(), documentsConstants(face));
+        same("public constructor and methods", publicCalls(), documentsCalls(face));
+        everythingRead(face);
         theClass();
         fields();
         methods();
         check.end();
+    }
+
+    private static Set<String> documentsConstants(String face) {
+        Set<String> found = new TreeSet<>();
+        Matcher constant = CONSTANT.matcher(face);
+        while (constant.find()) {
+            found.add(constant.group(1));
+        }
+        return found;
+    }
+
+    /** Each with the types of its parameters alone, as in "int node[int, int, int]". */
+    private static Set<String> documentsCalls(String face) {
+        Set<String> found = new TreeSet<>();
+        Matcher call = CALL.matcher(face);
+        while (call.find()) {
+            found.add(call.group(1) + "[" + call.group(2).replaceAll(" \\w+(,|$)", "$1") + "]");
+        }
+        return found;
+    }
+
+    private static void everythingRead(String face) {
+        String left = CALL.matcher(CONSTANT.matcher(face).replaceAll("")).replaceAll("");
+        String frame = left.replaceAll("\\s+", " ").trim();
+        check.due("read of the face, all but " + frame,
+            frame.equals("java public final class DefuncMl { }"), true);
     }
 
     private static void same(String what, Set<String> got, Set<String> want) {
@@ -46,21 +68,25 @@ public final class FaceTest {
         check.due(what + ", missing " + missing, missing.size(), 0);
     }
 
-    private static Set<String> publicConstants() throws IllegalAccessException {
+    /** Each as in "K_NUM = 1". */
+    static Set<String> publicConstants() throws IllegalAccessException {
         Set<String> found = new TreeSet<>();
         for (Field field : DefuncMl.class.getDeclaredFields()) {
             int modifiers = field.getModifiers();
             if (Modifier.isPublic(modifiers)) {
                 boolean constant = Modifier.isStatic(modifiers) && Modifier.isFinal(modifiers)
                     && field.getType() == int.class;
-                found.add(field.getName() + "=" + (constant ? field.getInt(null) : "no constant"));
+                found.add(field.getName() + " = " + (constant ? field.getInt(null) : "no constant"));
             }
         }
         return found;
     }
 
-    private static Set<String> publicMethods() {
+    private static Set<String> publicCalls() {
         Set<String> found = new TreeSet<>();
+        for (Constructor<?> constructor : DefuncMl.class.getConstructors()) {
+            found.add(constructor.getName() + Arrays.toString(constructor.getParameterTypes()));
+        }
         for (Method method : DefuncMl.class.getDeclaredMethods()) {
             if (Modifier.isPublic(method.getModifiers())) {
                 found.add(method.getReturnType() + " " + method.getName()
@@ -77,12 +103,7 @@ public final class FaceTest {
         check.due("superclass is Object", DefuncMl.class.getSuperclass() == Object.class, true);
         check.due("interfaces", DefuncMl.class.getInterfaces().length, 0);
         check.due("nested classes", DefuncMl.class.getDeclaredClasses().length, 0);
-        Constructor<?>[] constructors = DefuncMl.class.getDeclaredConstructors();
-        check.due("constructors", constructors.length, 1);
-        check.due("constructor is public", Modifier.isPublic(constructors[0].getModifiers()), true);
-        check.due("constructor takes two ints",
-            Arrays.equals(constructors[0].getParameterTypes(), new Class<?>[] {int.class, int.class}),
-            true);
+        check.due("constructors", DefuncMl.class.getDeclaredConstructors().length, 1);
     }
 
     private static void fields() {

@@ -1,72 +1,8 @@
-/** The sections "What it is", as far as it names boundaries, and "Program form". */
+/** The section "Program form". */
 final class FormBoundaries {
     private static final int[] ZERO = Term.num(0);
 
     private FormBoundaries() {
-    }
-
-    @Says(in = "What it is", sentence = "MAX_NODES = 32: the most nodes a program may have.")
-    static void mostNodes(Check check) {
-        check.due("MAX_NODES", DefuncMl.MAX_NODES, 32);
-        DefuncMl x = new DefuncMl(64, 8);
-        for (int i = 0; i < 32; i++) {
-            check.due("node " + i, x.node(DefuncMl.K_SND, 0, 0), DefuncMl.OK);
-        }
-        check.due("node 32", x.node(DefuncMl.K_SND, 0, 0), DefuncMl.ERR_FULL);
-        check.due("nodeCount", x.nodeCount(), 32);
-    }
-
-    @Says(in = "What it is", sentence = "Once the tree is complete it can be compiled.")
-    static void compiledOnceComplete(Check check) {
-        int[] term = Term.chain(32);
-        DefuncMl x = new DefuncMl(64, 8);
-        for (int i = 0; i < 32; i++) {
-            check.due("compile with " + i + " nodes", x.compile(), DefuncMl.ERR_INCOMPLETE);
-            x.node(term[3 * i], term[3 * i + 1], term[3 * i + 2]);
-        }
-        check.due("compile with 32 nodes", x.compile(), DefuncMl.OK);
-    }
-
-    @Says(in = "What it is", sentence = "A compiled program can then be run.")
-    static void runOnceCompiled(Check check) {
-        DefuncMl x = Term.fed(64, 8, Term.num(6));
-        check.due("run before compile", x.run(), DefuncMl.ERR_NOT_COMPILED);
-        check.due("compile", x.compile(), DefuncMl.OK);
-        check.due("run", x.run(), DefuncMl.OK);
-    }
-
-    @Says(in = "What it is", sentence = "Each evaluation of a K_FUN, K_PAIR, K_LET or K_LETREC "
-        + "node, and each application, spends exactly one unit of a clamped budget (a K_LETREC "
-        + "spends one unit in all, which covers its closure).")
-    static void oneUnitEach(Check check) {
-        spends(check, "K_FUN", Term.fun(0, ZERO), 1);
-        spends(check, "K_PAIR", Term.pair(ZERO, ZERO), 1);
-        spends(check, "K_LET", Term.let(0, ZERO, ZERO), 1);
-        spends(check, "K_LETREC", Term.letrec(0, 1, ZERO, ZERO), 1);
-        spends(check, "K_LETREC and its closure", Term.letrec(0, 1, ZERO, Term.var(0)), 1);
-        spends(check, "K_FUN and application", Term.app(Term.fun(0, ZERO), ZERO), 2);
-        spends(check, "K_NUM", ZERO, 0);
-        spends(check, "K_IF", Term.iff(ZERO, ZERO, ZERO), 0);
-        spends(check, "K_EQ", Term.eq(ZERO, ZERO), 0);
-        spends(check, "K_PAIR and K_FST", Term.fst(Term.pair(ZERO, ZERO)), 1);
-        spends(check, "K_LET and K_VAR", Term.let(0, ZERO, Term.var(0)), 1);
-    }
-
-    private static void spends(Check check, String what, int[] term, int units) {
-        DefuncMl x = Term.compiled(64, 8, term);
-        check.due(what + ": run", x.run(), DefuncMl.OK);
-        check.due(what + ": unitsUsed", x.unitsUsed(), units);
-    }
-
-    @Says(in = "What it is", sentence = "The nesting of active applications is limited by a "
-        + "clamped depth, so every run ends.")
-    static void everyRunEnds(Check check) {
-        for (int depth : Edge.INTS) {
-            DefuncMl x = Term.compiled(Edge.MAX, depth, Term.deepLoop());
-            check.due("maxDepth " + depth + ": run", x.run(), DefuncMl.ERR_DEPTH);
-            check.due("maxDepth " + depth + ": peak is in 1..8",
-                x.peakDepth() >= 1 && x.peakDepth() <= 8, true);
-        }
     }
 
     @Says(in = "Program form", sentence = "A program is a tree of at most MAX_NODES nodes.")

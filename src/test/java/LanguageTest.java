@@ -19,12 +19,16 @@ public final class LanguageTest {
     private static final Pattern FORBIDDEN = Pattern.compile("\\b(package|import|class|interface"
         + "|enum|record|float|double|String|Object|Math|Integer|Long|System|Arrays|null|throw|throws"
         + "|try|catch|synchronized|assert|instanceof|protected|equals|hashCode|toString|getClass)\\b"
-        + "|->|::|\"");
+        + "|->|::|\"|\\[\\]\\[");
+    private static final Pattern CLASS_NAME = Pattern.compile("\\b[A-Z]+[a-z]\\w*");
     private static final Pattern ARRAY =
         Pattern.compile("    private final (int|long)\\[\\] \\w+ = new \\1\\[[A-Z_]+\\];");
     private static final Pattern HEAD = Pattern.compile(
         "    (public|private) (?:static )?(?:(?:int|long|boolean|void) )?(\\w+)\\(([^)]*)\\) \\{");
     private static final Pattern CALL = Pattern.compile("\\b([a-z]\\w*)\\(");
+    private static final Pattern LOOP = Pattern.compile("\\b(for|while|do)\\b");
+    private static final Pattern COUNTED =
+        Pattern.compile("for \\(int (\\w+) = [^;]+; \\1 (?:<|>=) [^;|]+; \\1(?:\\+\\+|--)\\) \\{");
 
     public static void main(String[] args) throws IOException {
         String source = Files.readString(SOURCE).replaceAll("(?s)/\\*.*?\\*/", "")
@@ -34,6 +38,9 @@ public final class LanguageTest {
         Map<String, String> bodies = methodBodies(source);
         callGraph(bodies);
         nestedCalls(bodies);
+        for (String name : bodies.keySet()) {
+            countedLoops(name, bodies.get(name));
+        }
         check.end();
     }
 
@@ -41,6 +48,11 @@ public final class LanguageTest {
         Matcher word = FORBIDDEN.matcher(source.replaceFirst("public final class DefuncMl", ""));
         while (word.find()) {
             check.due("forbidden word " + word.group() + " stands", true, false);
+        }
+        Matcher name = CLASS_NAME.matcher(source);
+        while (name.find()) {
+            check.due("name of another class: " + name.group(), name.group().equals("DefuncMl"),
+                true);
         }
     }
 
@@ -72,7 +84,9 @@ public final class LanguageTest {
                 lines++;
             }
         }
-        check.due("methods were found", bodies.size() > 15, true);
+        int constructor = 1;
+        check.due("methods found", bodies.size(),
+            DefuncMl.class.getDeclaredMethods().length + constructor);
         return bodies;
     }
 
@@ -81,6 +95,7 @@ public final class LanguageTest {
         Matcher call = CALL.matcher(body);
         while (call.find()) {
             boolean known = bodies.containsKey(call.group(1));
+            check.due(call.group(1) + " is a method of the class", known, true);
             if (known) {
                 called.add(call.group(1));
             }
@@ -129,5 +144,25 @@ public final class LanguageTest {
             end++;
         }
         return body.substring(start, end - 1);
+    }
+
+    /** Each loop counts one step a round towards a bound, and nothing else moves its counter. */
+    private static void countedLoops(String method, String body) {
+        int loops = count(LOOP, body);
+        int counted = 0;
+        Matcher loop = COUNTED.matcher(body);
+        while (loop.find()) {
+            counted++;
+            String counter = loop.group(1);
+            int heads = count(Pattern.compile("for \\(int " + counter + " ="), body);
+            Pattern moves = Pattern.compile("\\b" + counter + " ?(=(?!=)|[-+*/%&|^]=|<<=|>>=|>>>=|"
+                + "\\+\\+|--)|(\\+\\+|--)" + counter + "\\b");
+            check.due(method + " moves " + counter, count(moves, body), 2 * heads);
+        }
+        check.due(method + " has counted loops alone", counted, loops);
+    }
+
+    private static int count(Pattern pattern, String text) {
+        return (int) pattern.matcher(text).results().count();
     }
 }

@@ -124,7 +124,7 @@ final class Model {
         return new Tree(index, node[0], node[1], node[2], children);
     }
 
-    private static int arity(int kind) {
+    static int arity(int kind) {
         return switch (kind) {
             case DefuncMl.K_NUM, DefuncMl.K_VAR -> 0;
             case DefuncMl.K_FST, DefuncMl.K_SND, DefuncMl.K_FUN -> 1;
