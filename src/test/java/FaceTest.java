@@ -76,7 +76,8 @@ public final class FaceTest {
             if (Modifier.isPublic(modifiers)) {
                 boolean constant = Modifier.isStatic(modifiers) && Modifier.isFinal(modifiers)
                     && field.getType() == int.class;
-                found.add(field.getName() + " = " + (constant ? field.getInt(null) : "no constant"));
+                String value = constant ? "" + field.getInt(null) : "no constant";
+                found.add(field.getName() + " = " + value);
             }
         }
         return found;

@@ -6,6 +6,18 @@ import java.util.regex.Pattern;
 final class OverviewBoundaries {
     private static final String IN = "What it is";
 
+    private static final String NODE_KINDS = "Node kinds: K_NUM = 1, K_VAR = 2, K_ADD = 3, "
+        + "K_SUB = 4, K_MUL = 5, K_DIV = 6, K_LT = 7, K_EQ = 8, K_IF = 9, K_PAIR = 10, K_FST = 11, "
+        + "K_SND = 12, K_FUN = 13, K_LET = 14, K_LETREC = 15, K_APP = 16.";
+
+    private static final String OUTCOME_CODES = "Outcome codes: OK = 0, ERR_COMPLETE = 1, "
+        + "ERR_FULL = 2, ERR_KIND = 3, ERR_NAME = 4, ERR_INCOMPLETE = 5, ERR_SCOPE = 6, "
+        + "ERR_NOT_COMPILED = 7, ERR_NOT_INT = 8, ERR_NOT_FUN = 9, ERR_NOT_PAIR = 10, "
+        + "ERR_DIV = 11, ERR_BUDGET = 12, ERR_DEPTH = 13, NO_RESULT = 14.";
+
+    private static final String VALUE_KINDS =
+        "Value kinds: KIND_NONE = 0, KIND_INT = 1, KIND_PAIR = 2, KIND_FUN = 3.";
+
     private static final int[] ZERO = Term.num(0);
     private static final int[] BAD_DIV = Term.div(Term.num(1), ZERO);
     private static final int[] BAD_PART = Term.fst(ZERO);
@@ -156,8 +168,8 @@ final class OverviewBoundaries {
         }
     }
 
-    @Says(in = IN, sentence = "Only outcomes can be seen: an outcome code; the units used; the peak "
-        + "application depth; the value, which is an integer, a nested pair (walked by a path of "
+    @Says(in = IN, sentence = "Only outcomes can be seen: an outcome code; the units used; the "
+        + "peak application depth; the value, which is an integer, a nested pair (walked by a path of "
         + "bits), or a closure reported by the tag of the lambda that made it.")
     static void whatCanBeSeen(Check check) {
         DefuncMl x = check.ends("a value of each sort", States.valueOfEachSort(), 64, 8,
@@ -180,18 +192,6 @@ final class OverviewBoundaries {
         check.due("node 32", x.node(DefuncMl.K_SND, 0, 0), DefuncMl.ERR_FULL);
         check.due("nodeCount", x.nodeCount(), 32);
     }
-
-    private static final String NODE_KINDS = "Node kinds: K_NUM = 1, K_VAR = 2, K_ADD = 3, "
-        + "K_SUB = 4, K_MUL = 5, K_DIV = 6, K_LT = 7, K_EQ = 8, K_IF = 9, K_PAIR = 10, K_FST = 11, "
-        + "K_SND = 12, K_FUN = 13, K_LET = 14, K_LETREC = 15, K_APP = 16.";
-
-    private static final String OUTCOME_CODES = "Outcome codes: OK = 0, ERR_COMPLETE = 1, "
-        + "ERR_FULL = 2, ERR_KIND = 3, ERR_NAME = 4, ERR_INCOMPLETE = 5, ERR_SCOPE = 6, "
-        + "ERR_NOT_COMPILED = 7, ERR_NOT_INT = 8, ERR_NOT_FUN = 9, ERR_NOT_PAIR = 10, "
-        + "ERR_DIV = 11, ERR_BUDGET = 12, ERR_DEPTH = 13, NO_RESULT = 14.";
-
-    private static final String VALUE_KINDS =
-        "Value kinds: KIND_NONE = 0, KIND_INT = 1, KIND_PAIR = 2, KIND_FUN = 3.";
 
     @Says(in = IN, sentence = NODE_KINDS)
     static void nodeKinds(Check check) throws IllegalAccessException {
